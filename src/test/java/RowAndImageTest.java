@@ -110,6 +110,8 @@ public final class RowAndImageTest {
         check.due("lots(2, 7)", box.lots(2, 7), 66);
         check.due("lots(1, -1)", box.lots(1, -1), 39);
         check.due("lots(1, least)", box.lots(1, LEAST), 37);
+        box.set(5, 90);
+        check.due("by the SET OUT there is now", box.lots(1, 0), 38);
         check.due("what is told is as it was", box.begins(0, 0), 0);
         check.due("COURSE 1", Check.told("dk50061;o267;").lots(1, 0), 101);
         check.due("COURSE 4, up at 480, begun at 449 and at 435", Check.told("dk50064;o400;b0690020;").lots(2, 0), 31 + 45);
